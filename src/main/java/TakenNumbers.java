@@ -820,9 +820,6 @@ public final class TakenNumbers {
             table.setPort(port);
             for (int slot = 0; slot < SLOTS; slot++) {
                 kinds[slot] = NONE;
-                ands[slot] = 0;
-                lesses[slot] = 0;
-                halves[slot] = 0;
             }
         }
 

@@ -10,6 +10,7 @@ public final class BooksTest {
         readings();
         twice();
         corner();
+        cornerByTheMost();
         year();
         keepAndBack();
         counts();
@@ -30,6 +31,8 @@ public final class BooksTest {
         CHECK.due("halves: half of 2, and 4", port.ways(10, 5, 3), 1);
         CHECK.due("halves: less 2, and half of 4", port.ways(10, 0, 3), 1);
         CHECK.due("all of 24 by halves", port.ways((1 << 24) - 1, 3, 3), 12309874);
+        CHECK.due("one between", port.ways(1, 1, 3), 1);
+        CHECK.due("all of 24 once more", port.ways((1 << 24) - 1, 3, 3), 12309874);
         CHECK.due("beyond 99", port.ways((1 << 24) - 1, 99, 1), 0);
         port.born();
         CHECK.due("taken or not", port.ways(1, 1, 0), 1);
@@ -52,6 +55,7 @@ public final class BooksTest {
         CHECK.due("lowest(-1)", port.lowest(-1), BAD);
         CHECK.due("whole", Given.laid("n5;p3;k0,0,0;").lowest(0), 6);
         CHECK.due("1 to 91", Given.laid("n13;p3;").lowest(0), 92);
+        CHECK.due("1 to 98", Given.laid("n14;p3;p3;h7,1;").lowest(0), 99);
         CHECK.due("there is none", Given.laid("n14;p3;").lowest(0), NONE);
         port = Given.laid("n6;p1;k2,0,0;");
         port.speak(0);
@@ -150,6 +154,16 @@ public final class BooksTest {
         CHECK.due("nor how many", port.corner(0, 1), NONE);
         port = Given.laid("n4;p4;p4;k1,0,0;");
         CHECK.due("4 by 4 leaves 1 and 3; 7 is 3 and 4", port.corner(0, 0) * 10 + port.corner(0, 1), 51);
+    }
+
+    /** 99 is 9, 21, 22, 23 and 24, which five others need; 1 to 8 are taken, the rest is of one who can not use it. */
+    private static void cornerByTheMost() {
+        TakenNumbers port = Given.laid("n24;p1;p24;p23;p22;p21;p9;h10,5;h11,5;h12,5;h13,5;h14,5;h15,5;h16,5;h17,5;h18,5;h19,5;h20,5;");
+        for (int k = 1; k <= 8; k++) {
+            port.born();
+        }
+        CHECK.due("the most he can say", port.corner(0, 0), 99);
+        CHECK.due("all others are stuck", port.corner(0, 1), 5);
     }
 
     /** By z = 0 a first day's person has to say 1 mod 99, and 1: 2; the next (102 * 102) mod 65521 mod 99, and 1: 10. */

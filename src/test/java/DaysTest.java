@@ -194,6 +194,8 @@ public final class DaysTest {
         CHECK.due("too much", port.best(0, 16, 0), NONE);
         CHECK.due("all together", port.best(0, 15, 2), 31);
         CHECK.due("too much, and no such what", port.best(0, 16, 5), BAD);
+        CHECK.due("whole, the last of 24", Given.laid("n24;p3;k0,1,1;").best(0, 24, 2), 1 << 23);
+        CHECK.due("whole, beyond 24", Given.laid("n24;p3;k0,1,1;").best(0, 25, 2), NONE);
         port = Given.laid("n5;p3;k0,1,1;");
         CHECK.due("whole", port.best(0, 5, 2), 16);
         CHECK.due("no whole one", port.best(0, 6, 2), NONE);

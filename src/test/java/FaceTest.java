@@ -45,6 +45,15 @@ public final class FaceTest {
         }
     }
 
+    private static boolean isOfFace(String name) {
+        for (String call : FACE) {
+            if (call.startsWith(name + "(")) {
+                return true;
+            }
+        }
+        return false;
+    }
+
     private static String typesOf(Method method) {
         StringBuilder types = new StringBuilder();
         for (Class<?> type : method.getParameterTypes()) {
@@ -76,6 +85,9 @@ public final class FaceTest {
         for (Class<?> type : inside) {
             CHECK.that(type.getName() + " is private and static",
                     Modifier.isPrivate(type.getModifiers()) && Modifier.isStatic(type.getModifiers()));
+            for (Method method : type.getDeclaredMethods()) {
+                CHECK.that("no method of the face inside: " + method.getName(), !isOfFace(method.getName()));
+            }
         }
     }
 }

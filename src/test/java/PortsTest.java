@@ -79,6 +79,15 @@ public final class PortsTest {
         CHECK.due("a number beyond those told", Given.faultOf("n5;c6,1;"), 3);
         CHECK.due("a number beyond the last told", Given.faultOf("n9;n5;p1;h6,0;"), 9);
         CHECK.due("the first of two faults", Given.faultOf("p1;c0,1;n0;"), 3);
+        String long198 = "n5;".repeat(66);
+        CHECK.due("198 letters", Given.faultOf(long198), NONE);
+        CHECK.due("200 letters, the last a figure", Given.faultOf(long198 + "n5"), 198);
+        CHECK.due("200 letters, the last a comma", Given.faultOf(long198.substring(3) + "p1;c,"), 198);
+        CHECK.due("199 letters", Given.faultOf(long198 + "n"), 198);
+        TakenNumbers port = new TakenNumbers();
+        Given.rewrite(port, "p55;p5;");
+        Given.rewrite(port, "p5");
+        CHECK.due("what was wiped is not read", port.fault(), 0);
         CHECK.due("no end", Given.faultOf("p1;p2"), 3);
     }
 

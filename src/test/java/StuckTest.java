@@ -108,6 +108,9 @@ public final class StuckTest {
         CHECK.due("not two, and no such what", port.deny(2, 3), BAD);
         port.born();
         CHECK.due("none is free", port.deny(1, 0), NONE);
+        port = Given.laid("n24;p24;k0,0,0;");
+        CHECK.due("the last of 24", port.deny(1, 1) * 10 + port.deny(1, 0), 241);
+        CHECK.due("1 and the last of 24", port.deny(2, 1) * 100 + port.deny(2, 2), 124);
         port = Given.laid("n2;p9;p9;");
         CHECK.due("all are stuck by any", port.deny(2, 0) * 100 + port.deny(2, 1) * 10 + port.deny(2, 2), 212);
     }
@@ -117,6 +120,8 @@ public final class StuckTest {
         CHECK.due("4 would free 0, 6 would free 2", port.guard(), 4);
         port.lend(4, 0);
         CHECK.due("6 would free 2", port.guard(), 6);
+        port = Given.laid("n24;p24;p1;h24,1;k0,0,0;");
+        CHECK.due("the last of 24", port.guard(), 24);
         port = Given.laid("n3;p1;");
         CHECK.due("of several the lowest", port.guard(), 1);
         port.born();
@@ -146,6 +151,7 @@ public final class StuckTest {
     private static void changed() {
         CHECK.due("all can by each", Given.laid("n6;p3;k3,0,0;").changed(), 0);
         CHECK.due("by sums", Given.laid("n6;p7;k3,0,0;").changed(), 1);
+        CHECK.due("six stuck by whole, five by sums", Given.laid("n2;p3;p3;p3;p3;p3;p3;k0,0,0;").changed(), 1);
         CHECK.due("none by any", Given.laid("n2;p9;k2,0,0;").changed(), 0);
         TakenNumbers port = Given.laid("n4;p2;p1;k1,0,0;");
         port.born();
