@@ -35,4 +35,23 @@ final class Given {
             }
         }
     }
+
+    /** On a new object: two ports kept, more undone than can be, words, a book, a birth, one who spoke, one lent. */
+    static void busyDay(TakenNumbers port) {
+        port.speak(3);
+        port.keep();
+        port.dusk(true);
+        port.speak(1);
+        port.keep();
+        for (int k = 0; k < 4; k++) {
+            port.dusk(false);
+        }
+        port.lend(5, 2);
+        port.born();
+        port.speak(0);
+        port.tell(2, 1);
+        port.tell(6, 3);
+        port.enter(5);
+        port.enter(12);
+    }
 }
