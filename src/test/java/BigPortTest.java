@@ -17,14 +17,7 @@ public final class BigPortTest {
     public static void main(String[] args) {
         Random random = new Random(24);
         for (int k = 0; k < 24; k++) {
-            TakenNumbers port = Given.laid(drawnText(random, k));
-            for (int births = random.nextInt(6); births > 0; births--) {
-                port.born();
-            }
-            for (int i = 0; i < random.nextInt(7); i++) {
-                port.speak(i);
-            }
-            compare(port, 5);
+            compare(drawnText(random, k), random.nextInt(6), random.nextInt(7), 5);
         }
         anyArguments(random);
         CHECK.end();
@@ -50,12 +43,25 @@ public final class BigPortTest {
                 .append(";h").append(1 + random.nextInt(24)).append(",0;").toString();
     }
 
-    private static void compare(TakenNumbers port, int i) {
+    private static TakenNumbers made(String text, int births, int spoken) {
+        TakenNumbers port = Given.laid(text);
+        for (int k = 0; k < births; k++) {
+            port.born();
+        }
+        for (int i = 0; i < spoken; i++) {
+            port.speak(i);
+        }
+        return port;
+    }
+
+    private static void compare(String text, int births, int spoken, int i) {
+        TakenNumbers port = made(text, births, spoken);
         for (int amount = 0; amount < 100; amount++) {
             bestWeight[amount] = Integer.MAX_VALUE;
         }
         writeOut(port.person(i, 2), 1, 0, 0, new int[4]);
         for (int amount = 1; amount < 100; amount++) {
+            port = amount % 33 == 0 ? made(text, births, spoken) : port;
             int many = port.best(i, amount, 0);
             if (bestWeight[amount] == Integer.MAX_VALUE) {
                 CHECK.that(amount + " is of more than four, or none", many > 4 || many == TakenNumbers.NONE);
@@ -94,8 +100,10 @@ public final class BigPortTest {
         int[] odd = {Integer.MIN_VALUE, Integer.MIN_VALUE + 1, -100, -5, -2, -1, 0, 1, 2, 3, 5, 6, 7, 24, 25, 32, 99, 100,
             1 << 23, 1 << 24, 1 << 30, Integer.MAX_VALUE};
         for (int k = 0; k < 40; k++) {
-            TakenNumbers port = Given.laid("n" + (1 + random.nextInt(24)) + ";p9;p" + (1 + random.nextInt(99)) + ";k" + k % 4 + ",1,1;");
+            String text = "n" + (1 + random.nextInt(24)) + ";p9;p" + (1 + random.nextInt(99)) + ";k" + k % 4 + ",1,1;";
+            TakenNumbers port = Given.laid(text);
             for (int a : odd) {
+                port = a == 0 ? Given.laid(text) : port;
                 int b = odd[random.nextInt(odd.length)];
                 int c = odd[random.nextInt(odd.length)];
                 int before = port.count(0) + port.count(1);

@@ -11,6 +11,7 @@ public final class EdgeBooksTest {
         waysOfJustThese();
         waysByWhole();
         waysToNothingAndToTheMost();
+        waysOfFewBehindMany();
         waysTakenOrNot();
         lowestOfPersonsThereAre();
         lowestOneToNinetyNine();
@@ -131,6 +132,18 @@ public final class EdgeBooksTest {
         for (int amount : new int[] {0, 1, 2, 50, 98, 99}) {
             CHECK.due(amount + " of all by signs", port.ways(all, amount, 2), due[300 + amount]);
             CHECK.due(amount + " of all by halves", port.ways(all, amount, 3), halves[300 + amount]);
+        }
+    }
+
+    /** What was reckoned for many NUMBERS is not answered for few. */
+    private static void waysOfFewBehindMany() {
+        TakenNumbers port = Given.laid("n24;p1;");
+        int all = (1 << 24) - 1;
+        for (int set : new int[] {1, 3, 7, 1 << 23}) {
+            CHECK.that("many", port.ways(all, 99, 3) > 0);
+            CHECK.due("99 of set " + set, port.ways(set, 99, 3), 0);
+            CHECK.due("25 of set " + set, port.ways(set, 25, 3), 0);
+            CHECK.due("99 of set " + set + ", once more", port.ways(set, 99, 3), 0);
         }
     }
 
@@ -279,6 +292,9 @@ public final class EdgeBooksTest {
         CHECK.due("one row", port.book(-1), 1);
         port.close();
         CHECK.due("no rows again", port.book(-1), 1);
+        port.enter(1);
+        CHECK.due("another row, of nobody", port.book(-1), 0);
+        CHECK.due("sure of none", port.book(0), NONE);
     }
 
     /** "all rows can be of PERSONS, no two of one" */

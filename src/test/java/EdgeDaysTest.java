@@ -45,6 +45,9 @@ public final class EdgeDaysTest {
         bestByTheUseOfTheFirst();
         bestByTheUseOfTheNext();
         bestOfTheLastNumbers();
+        bestOfTheHighestPrice();
+        bestBeyondTheAmounts();
+        bestOneBehindTheOther();
         refusedChangesNothing();
         CHECK.end();
     }
@@ -314,6 +317,14 @@ public final class EdgeDaysTest {
         CHECK.due("he may not use it", port.person(1, 2), 1);
         CHECK.due("whose it is stays", port.number(3, 1), 0);
         CHECK.due("lent again", port.lend(3, 2), 1);
+        TakenNumbers all = Given.laid("n6;p1;p1;p1;p1;p1;p1;h1,5;h2,0;h3,0;h4,0;h5,0;h6,0;");
+        for (int i = 0; i < 6; i++) {
+            all.lend(i + 1, i);
+        }
+        all.dusk(false);
+        for (int i = 0; i < 6; i++) {
+            CHECK.due("lent to " + i + " no more", all.number(i + 1, 3), NONE);
+        }
     }
 
     // ---- promise 15
@@ -624,6 +635,49 @@ public final class EdgeDaysTest {
         uses("n24;p1;p1;h1,1;h2,1;c3,9;c4,9;c5,9;c6,9;c7,9;c8,9;c9,9;c10,9;c11,9;c12,9;c13,9;c14,9;c15,9;c16,9;c17,9;c18,9;"
                 + "c19,9;c20,9;c21,9;c22,9;k2,0,0;", 1, 1 << 23, 1 << 22, 0);
         uses("n24;p1;p1;h12,1;k3,9,0;", 12, 0, 0, 1 << 23);
+    }
+
+    /** "PRICE (1)": of the first and the last NUMBER, of nothing, of as much as can be. */
+    private static void bestOfTheHighestPrice() {
+        TakenNumbers port = Given.laid("n24;p1;c1,0;c24,9;c23,0;k3,9,9;");
+        CHECK.due("1 costs nothing", port.best(0, 1, 1), 0);
+        CHECK.due("23 costs nothing", port.best(0, 23, 1), 0);
+        CHECK.due("24 costs 9", port.best(0, 24, 1), 9);
+        StringBuilder dear = new StringBuilder("n14;p99;");
+        for (int x = 1; x <= 14; x++) {
+            dear.append('c').append(x).append(",9;");
+        }
+        CHECK.due("eleven of 9", Given.laid(dear.toString()).best(0, 99, 1), 99);
+        TakenNumbers signs = Given.laid("n4;p1;p1;h1,1;h2,1;c3,9;c4,9;k2,9,9;");
+        CHECK.due("4 less 3", signs.best(0, 1, 1), 27);
+    }
+
+    /** Amounts are 1 to 99, what some of the NUMBERS come to may be less or more. */
+    private static void bestBeyondTheAmounts() {
+        uses("n6;p1;p1;h1,1;h2,1;h5,1;k2,0,0;", 1, 8, 4, 0);
+        uses("n6;p1;p1;h1,1;h2,1;h3,1;k2,0,0;", 3, 8 + 16, 32, 0);
+        uses("n6;p1;p1;h1,1;h2,1;h3,1;k3,0,0;", 3, 0, 0, 32);
+        String own = "h2,1;h3,1;h4,1;h5,1;h6,1;h7,1;h8,1;h9,1;h11,1;h12,1;h13,1;h14,1;h15,1;h16,1;h17,1;h18,1;h19,1;h20,1;";
+        uses("n24;p1;p1;" + own + "k2,0,0;", 99, 512 + (15 << 20), 1, 0);
+        uses("n24;p1;p1;" + own + "k3,0,0;", 99, 512 + (15 << 20), 1, 0);
+    }
+
+    /** What is answered for one amount has nothing of the one that was asked ahead of it. */
+    private static void bestOneBehindTheOther() {
+        TakenNumbers port = Given.laid("n6;p1;p1;h1,1;h2,1;h5,1;h3,1;k3,2,4;");
+        int[] amounts = {3, 2, 4, 5, 6, 10, 2, 7, 4};
+        int[][] due = {{0, 0, 32, 5}, {0, 0, 8, 5}, {8, 0, 0, 1}, {0, 0, 8 + 32, 10}, {32, 0, 0, 1}, {8 + 32, 0, 0, 2}, {0, 0, 8, 5},
+            {8, 0, 32, 6}, {8, 0, 0, 1}};
+        for (int k = 0; k < amounts.length; k++) {
+            for (int use = 1; use <= 3; use++) {
+                CHECK.due(amounts[k] + " by use " + use, port.best(0, amounts[k], use + 1), due[k][use - 1]);
+            }
+            CHECK.due("the price of " + amounts[k], port.best(0, amounts[k], 1), due[k][3]);
+        }
+        TakenNumbers signs = Given.laid("n6;p1;p1;h1,1;h2,1;k2,3,0;");
+        CHECK.due("1 by 4 less 3", signs.best(0, 1, 3), 4);
+        CHECK.due("3 by 3, nothing less", signs.best(0, 3, 3), 0);
+        CHECK.due("3 by 3, for 1", signs.best(0, 3, 1), 1);
     }
 
     // ---- "nothing changes then"

@@ -7,6 +7,7 @@ public final class EdgePortsTest {
     public static void main(String[] args) {
         newObjectIsAsLaid();
         newObjectHasNoText();
+        newObjectSaysAtOnce();
         lettersThatCanBeWritten();
         twoHundredLettersAtMost();
         badAheadOfFull();
@@ -40,6 +41,8 @@ public final class EdgePortsTest {
         layNeedsAPerson();
         layTellsNumbers();
         layMakesAllNew();
+        layForgetsOtherTexts();
+        faultLeavesWhatIsLaid();
         layLeavesTheText();
         numberOfThoseThereAre();
         numberWhat();
@@ -72,6 +75,12 @@ public final class EdgePortsTest {
         CHECK.due("new: wipe()", new TakenNumbers().wipe(), 0);
         CHECK.due("new: fault()", new TakenNumbers().fault(), NONE);
         CHECK.due("new: lay()", new TakenNumbers().lay(), NO);
+    }
+
+    private static void newObjectSaysAtOnce() {
+        CHECK.due("new: the price of 7", new TakenNumbers().best(2, 7, 1), 3);
+        CHECK.due("new: the price of 5", new TakenNumbers().best(2, 5, 1), 2);
+        CHECK.due("new: 12 by 3 and 9", new TakenNumbers().best(3, 12, 2), 4 + 256);
     }
 
     // ---- promise 2
@@ -489,6 +498,36 @@ public final class EdgePortsTest {
             CHECK.due("no words", port.hush(), 0);
             CHECK.due("no book", port.close(), 0);
         }
+    }
+
+    /** Each text is laid as if there had been no other: whose the NUMBERS are, costs, PERSONS, the LAW. */
+    private static void layForgetsOtherTexts() {
+        String[] texts = {"n6;p5;p5;h1,0;h6,1;h5,0;c1,9;k3,9,8;", "n6;p5;p5;h5,0;c1,9;k1,0,0;", "n6;p5;p5;h5,0;c2,9;k1,0,0;", "n6;p5;p5;p5;",
+            "n6;p5;", "n6;p5;p5;h5,0;"};
+        TakenNumbers port = new TakenNumbers();
+        for (String text : texts) {
+            Given.rewrite(port, text);
+            CHECK.due("lay of " + text, port.lay(), 6);
+            TakenNumbers other = Given.laid(text);
+            String differs = Seen.of(port).differsFrom(Seen.of(other));
+            CHECK.that("laid behind others: " + differs, differs.isEmpty());
+            int last = port.count(1) - 1;
+            for (int what = 0; what <= 4; what++) {
+                CHECK.due("best of what " + what + ", " + text, port.best(last, 5, what), other.best(last, 5, what));
+            }
+        }
+    }
+
+    private static void faultLeavesWhatIsLaid() {
+        TakenNumbers port = Given.laid("n3;p3;p3;c3,0;h2,0;k3,0,0;");
+        TakenNumbers other = Given.laid("n3;p3;p3;c3,0;h2,0;k3,0,0;");
+        for (String text : new String[] {"n9;p1;h1,0;", "n9;p1;c1,9;x", "p0;", "n24;k0,9,9;"}) {
+            Given.rewrite(port, text);
+            port.fault();
+        }
+        Given.rewrite(port, "n3;p3;p3;c3,0;h2,0;k3,0,0;");
+        String differs = Seen.of(port).differsFrom(Seen.of(other));
+        CHECK.that("fault leaves what is laid: " + differs, differs.isEmpty());
     }
 
     private static void layLeavesTheText() {

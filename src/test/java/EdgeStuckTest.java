@@ -265,6 +265,7 @@ public final class EdgeStuckTest {
 
     private static void denyTheLastOnes() {
         TakenNumbers port = Given.laid("n24;p23;p24;k0,1,1;");
+        CHECK.due("24 alone", Given.laid("n24;p24;k0,1,1;").deny(1, 1), 24);
         CHECK.due("23", port.deny(1, 0) * 100 + port.deny(1, 1), 123);
         CHECK.due("23 and 24", port.deny(2, 0) * 10000 + port.deny(2, 1) * 100 + port.deny(2, 2), 22324);
         TakenNumbers sums = Given.laid("n2;p3;p2;p1;");
@@ -309,6 +310,8 @@ public final class EdgeStuckTest {
     private static void guardLowestOfSeveral() {
         CHECK.due("nobody is stuck by any", Given.laid("n3;p3;p3;").guard(), 1);
         CHECK.due("all are stuck by any", Given.laid("n3;p9;p9;").guard(), 1);
+        CHECK.due("all six are stuck by any", Given.laid("n3;p9;p9;p9;p9;p9;p9;").guard(), 1);
+        CHECK.due("five of six are", Given.laid("n3;p9;p9;p9;p9;p9;p1;h2,0;k0,1,1;").guard(), 1);
         TakenNumbers port = Given.laid("n5;p4;p5;p9;h4,2;h5,2;k0,1,1;");
         CHECK.due("4 would free 0, 5 would free 1", port.guard(), 4);
         port.lend(4, 0);
@@ -392,6 +395,13 @@ public final class EdgeStuckTest {
             CHECK.due("by whole, as 1 and 2 are left for others", Given.laid("n3;p3;p3;h3,1;p1;p2;h1,2;h2,3;" + law).changed(), 0);
             CHECK.due("by sums", Given.laid("n3;p6;" + law).changed(), 1);
             CHECK.due("by signs", Given.laid("n3;p1;p1;h1,1;" + law).changed(), 2);
+            CHECK.due("six by whole, five by sums", Given.laid("n2;p3;p3;p3;p3;p3;p3;" + law).changed(), 1);
+            TakenNumbers alone = Given.laid("n3;p1;" + law);
+            alone.born();
+            CHECK.due("3 less 2 by signs, of one alone", alone.changed(), 2);
+            alone = Given.laid("n2;p1;" + law);
+            alone.born();
+            CHECK.due("half of 2 by halves, of one alone", alone.changed(), 3);
             CHECK.due("by halves", Given.laid("n2;p1;p1;h1,1;" + law).changed(), 3);
             CHECK.due("by whole all but one can, by others fewer", Given.laid("n3;p3;p1;p2;p3;h3,3;" + law).changed(), 0);
         }

@@ -4,23 +4,28 @@ import java.util.Random;
 public final class ModelTest {
     private static final Check CHECK = new Check();
 
+    /** An object is for 512 calls: there is room left for a text that is drawn, written and laid as the last one. */
+    private static final int MOST_CALLS = 512 - 180;
+
     private static Random random;
     private static TakenNumbers real;
     private static Model model;
     private static String run;
+    private static int calls;
 
     public static void main(String[] args) {
-        int runs = args.length > 0 ? Integer.parseInt(args[0]) : 120;
+        int runs = args.length > 0 ? Integer.parseInt(args[0]) : 160;
         int first = args.length > 1 ? Integer.parseInt(args[1]) : 0;
         for (int seed = first; seed < first + runs; seed++) {
             random = new Random(seed);
             real = new TakenNumbers();
             model = new Model();
             run = "run " + seed + ": ";
+            calls = 0;
             if (seed % 4 != 0) {
                 layDrawn();
             }
-            for (int k = 0; k < 400; k++) {
+            for (int k = 0; k < 400 && calls < MOST_CALLS; k++) {
                 call();
             }
         }
@@ -32,6 +37,7 @@ public final class ModelTest {
     }
 
     private static void due(String call, int got, int want) {
+        calls++;
         CHECK.due(run + call, got, want);
     }
 
