@@ -42,6 +42,7 @@ public final class EdgePortsTest {
         layTellsNumbers();
         layMakesAllNew();
         layForgetsOtherTexts();
+        layForgetsWhatWasFound();
         faultLeavesWhatIsLaid();
         layLeavesTheText();
         numberOfThoseThereAre();
@@ -516,6 +517,18 @@ public final class EdgePortsTest {
                 CHECK.due("best of what " + what + ", " + text, port.best(last, 5, what), other.best(last, 5, what));
             }
         }
+    }
+
+    /** 5 is 1 and 4 as 1 costs nothing, and 2 and 3 as soon as a text is laid by which it costs 9. */
+    private static void layForgetsWhatWasFound() {
+        TakenNumbers port = Given.laid("n6;p5;p5;h5,0;c1,0;");
+        CHECK.due("by 1 and 4", port.best(1, 5, 2) * 100 + port.best(1, 5, 1), 901);
+        Given.rewrite(port, "n6;p5;p5;h5,0;c1,9;");
+        port.lay();
+        CHECK.due("by 2 and 3", port.best(1, 5, 2) * 100 + port.best(1, 5, 1), 602);
+        Given.rewrite(port, "n6;p5;p5;h5,0;c2,0;");
+        port.lay();
+        CHECK.due("by 2 and 3, for 1", port.best(1, 5, 2) * 100 + port.best(1, 5, 1), 601);
     }
 
     private static void faultLeavesWhatIsLaid() {
