@@ -6,14 +6,15 @@ import java.util.regex.Pattern;
 
 /**
  * The document told a second time and by brute force: all sayings are written out and sorted, all rows are
- * tried, days are kept as whole copies. Slow, and fit for ports of few numbers only.
+ * tried, days are kept as whole copies. Of more numbers than can be written out {@link BigSayings} finds them.
  */
 final class Model {
     private static final int BAD = -1, NO = -2, FULL = -3, NONE = -4;
+    private static final int MOST_WRITTEN_OUT = 9;
     private static final Pattern ITEM = Pattern.compile("[ncphk]\\d\\d?(,\\d\\d?)*;");
 
     /** uses[x] is 1, 2, 3, or 4 where NUMBER x is not used, so that of two sayings the smaller row is the first. */
-    private static final class Saying implements Comparable<Saying> {
+    static final class Saying implements Comparable<Saying> {
         int[] uses;
         int set;
         int sum;
@@ -78,6 +79,7 @@ final class Model {
     private List<Integer> amounts;
     private int[] law;
     private List<Saying> sayings;
+    private BigSayings bigSayings;
     private State state;
     private List<State> past;
     private List<State> kept;
@@ -187,6 +189,11 @@ final class Model {
 
     private void writeOutSayings() {
         sayings = new ArrayList<>();
+        bigSayings = null;
+        if (numbers > MOST_WRITTEN_OUT) {
+            bigSayings = new BigSayings(numbers, cost, law);
+            return;
+        }
         int[] uses = new int[numbers + 1];
         writeOut(uses, 1);
         sayings.sort(null);
@@ -398,6 +405,9 @@ final class Model {
 
     private Saying bestOf(int i, int amount, State s, int kind) {
         int may = may(i, s);
+        if (bigSayings != null) {
+            return bigSayings.best(may, amount, kind);
+        }
         for (Saying saying : sayings) {
             if (saying.sum == amount && (saying.set & may) == saying.set && saying.isBy(kind)) {
                 return saying;
@@ -569,6 +579,9 @@ final class Model {
     // ---- ways, books
 
     private int waysOf(int set, int amount, int kind) {
+        if (bigSayings != null) {
+            return bigSayings.ways(set, amount, kind);
+        }
         int many = 0;
         for (Saying saying : sayings) {
             many += saying.set == set && saying.sum == amount && saying.isBy(kind) ? 1 : 0;

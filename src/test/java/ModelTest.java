@@ -1,6 +1,9 @@
 import java.util.Random;
 
-/** Long runs of drawn calls, each asked of the class and of the model, which must answer alike. */
+/**
+ * Long runs of drawn calls, each asked of the class and of the model, which must answer alike. Each fifth run is of
+ * ports of up to 24 numbers.
+ */
 public final class ModelTest {
     private static final Check CHECK = new Check();
 
@@ -12,6 +15,7 @@ public final class ModelTest {
     private static Model model;
     private static String run;
     private static int calls;
+    private static boolean big;
 
     public static void main(String[] args) {
         int runs = args.length > 0 ? Integer.parseInt(args[0]) : 160;
@@ -22,6 +26,7 @@ public final class ModelTest {
             model = new Model();
             run = "run " + seed + ": ";
             calls = 0;
+            big = seed % 5 == 1;
             if (seed % 4 != 0) {
                 layDrawn();
             }
@@ -57,11 +62,11 @@ public final class ModelTest {
 
     private static String drawnText() {
         StringBuilder text = new StringBuilder();
-        int n = 1 + below(below(8) == 0 ? 9 : 7);
+        int n = big ? 10 + below(15) : 1 + below(below(8) == 0 ? 9 : 7);
         text.append('n').append(n).append(';');
-        int persons = 1 + below(6);
+        int persons = big ? 4 + below(3) : 1 + below(6);
         for (int i = 0; i < persons; i++) {
-            text.append('p').append(1 + below(below(4) == 0 ? 30 : n + 3)).append(';');
+            text.append('p').append(1 + below(big ? 99 : below(4) == 0 ? 30 : n + 3)).append(';');
         }
         for (int k = below(8); k > 0; k--) {
             text.append('c').append(1 + below(n)).append(',').append(below(10)).append(';');
@@ -91,7 +96,11 @@ public final class ModelTest {
         return drawn(0, model.count(1) - 1);
     }
 
+    /** Of many numbers, sets of a few, as rows of a book are. */
     private static int drawnSet() {
+        if (big && below(4) != 0) {
+            return 1 << below(model.count(0)) | 1 << below(model.count(0)) | 1 << below(model.count(0));
+        }
         return below(20) == 0 ? below(2) - 1 : below(1 << model.count(0)) + (below(20) == 0 ? 1 << 24 : 0);
     }
 
@@ -139,7 +148,7 @@ public final class ModelTest {
     private static void dayCall() {
         int x = drawnNumber();
         int i = drawnPerson();
-        int amount = below(5) == 0 ? drawn(1, 99) : drawn(1, 20);
+        int amount = big || below(5) == 0 ? drawn(1, 99) : drawn(1, 20);
         int what = drawn(0, 4);
         boolean feast = below(3) == 0;
         switch (below(10)) {
@@ -172,7 +181,7 @@ public final class ModelTest {
 
     private static void bookCall() {
         int set = drawnSet();
-        int amount = drawn(0, below(6) == 0 ? 99 : 15);
+        int amount = drawn(0, big || below(6) == 0 ? 99 : 15);
         int i = drawnPerson();
         int row = drawn(-1, 3);
         int what = drawn(0, 1);
